@@ -53,6 +53,7 @@ public final class PromiseTest {
         carryOutSyntax();
         carryOutUndo();
         undo();
+        undoOfRows();
         undoEachMethod();
         digest();
         theTextIsNotSaved();
@@ -216,7 +217,7 @@ public final class PromiseTest {
         check.due("the hidden case", 16, () -> x.value(5));
         x.ask(64, 128);
         check.due("one answer", 1, () -> x.value(6));
-        check.due("hide(16, 1)", 16, () -> x.hide(16, 1));
+        check.due("hide(16, 3)", 16, () -> x.hide(16, 3));
         check.due("no answer since then", 0, () -> x.value(6));
         check.due("hide is undoable", 3, x::undo);
         check.due("one answer again", 1, () -> x.value(6));
@@ -522,6 +523,13 @@ public final class PromiseTest {
         x.tell(1, 2, 2);
         // c or d, or none: 5 cases; g of 1 tells nothing, g of 2 parts them 2, 2, 1
         check.due("the greatest g", 2, () -> x.bestGroup(3));
+        // a g of 1 cannot part a heavier from b lighter, nor a lighter from b heavier
+        x.forget();
+        x.tell(1, 2, 0);
+        check.due("the answer 0 is the worst", 2, () -> x.bestGroup(0));
+        x.forget();
+        x.tell(1, 2, 1);
+        check.due("the answer 1 is the worst", 2, () -> x.bestGroup(0));
     }
 
     private static void teaches() {
@@ -623,6 +631,7 @@ public final class PromiseTest {
             check.due("the word of " + n + " with one lie", n, () -> x.decode(first));
         }
         check.due("several as near", -1, () -> x.decode(541));
+        check.due("case 0 and case 8 are as near", -1, () -> x.decode(224));
         planOfFour(x, 1);
         check.due("two have the answer 0", -1, () -> x.decode(0));
         check.refused(x, "decode(3)", ARGUMENT, () -> x.decode(3));
@@ -790,6 +799,25 @@ public final class PromiseTest {
         x.undo();
         x.undo();
         check.same("coins at last", 4, x.value(0));
+    }
+
+    private static void undoOfRows() {
+        LyingScale x = new LyingScale();
+        x.tell(7, 56, 0);
+        x.add(1, 2);
+        x.begin(16);
+        x.tell(256, 512, 1);
+        x.add(4, 8);
+        x.undo();
+        x.undo();
+        x.undo();
+        int[] want = {7, 56, 0};
+        for (int what = 0; what < 3; what++) {
+            int w = what;
+            check.due("weighing(0, " + w + ") is back", want[w], () -> x.weighing(0, w));
+        }
+        check.due("the plan is back", 1, () -> x.distance(0, 1));
+        check.due("the later plan is gone", 0, () -> x.distance(0, 5));
     }
 
     private static void undoEachMethod() {
