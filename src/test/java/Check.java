@@ -5,11 +5,17 @@ final class Check {
     }
 
     private final String test;
+    private String part = "";
     private int passed;
     private int failed;
 
     Check(String test) {
         this.test = test;
+    }
+
+    /** The checks that follow belong to this part of the test. */
+    void begin(String name) {
+        part = name + ": ";
     }
 
     void same(String what, Object want, Object got) {
@@ -18,7 +24,7 @@ final class Check {
         } else {
             failed++;
             if (failed <= 50) {
-                System.out.println(test + ": " + what + " answered " + got + ", due is " + want);
+                System.out.println(test + ": " + part + what + " answered " + got + ", due is " + want);
             }
         }
     }
@@ -41,6 +47,10 @@ final class Check {
         long before = x.digest();
         due(what, "throws." + exception, call);
         same(what + ": digest after the throw", before, x.digest());
+    }
+
+    int count() {
+        return passed + failed;
     }
 
     void close() {
