@@ -335,6 +335,7 @@ public final class BoundsTest {
             x.tell(1, 4, 0);
             check.due("one case", false, () -> x.teaches(1, 2));
             check.due("no case", false, () -> noCase().teaches(1, 2));
+            noneOrOne();
             LyingScale y = Fixtures.limited(16, 0);
             y.tell(0x007f, 0x3f80, 2);
             check.due("the first and the last case that are left", true,
@@ -346,6 +347,21 @@ public final class BoundsTest {
         });
         says(19, "Throws `IllegalArgumentException` if the sets are not those of a weighing",
                 () -> Fixtures.weighings(check, "teaches", x -> { }, LyingScale::teaches));
+    }
+
+    // Only the cases 0 and 1 are left: case 0 counts as each other case does.
+    private static void noneOrOne() {
+        LyingScale x = Fixtures.coins(4);
+        x.tell(1, 2, 0);
+        x.tell(2, 4, 2);
+        x.tell(2, 8, 2);
+        x.tell(1, 4, 2);
+        check.same("two cases", 2, x.value(3));
+        check.same("the first one", 0, x.leftCase(0));
+        check.same("the second one", 1, x.leftCase(1));
+        check.same("a, left", true, x.teaches(1, 2));
+        check.same("a, right", true, x.teaches(8, 1));
+        check.same("without a", false, x.teaches(2, 4));
     }
 
     /** The given set of one coin of a to g is false, or none is; the others are good. */

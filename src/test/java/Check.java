@@ -24,7 +24,8 @@ final class Check {
         } else {
             failed++;
             if (failed <= 50) {
-                System.out.println(test + ": " + part + what + " answered " + got + ", due is " + want);
+                System.out.println(test + ": " + part + what + " answered " + got
+                        + ", due is " + want);
             }
         }
     }

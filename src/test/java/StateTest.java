@@ -37,6 +37,7 @@ public final class StateTest {
             check.refused(x, "all are removed", Fixtures.STATE, x::undo);
             eachPart();
             twoWays();
+            writtenOver();
         });
         says(28, "Returns the number of saved states that remain.", () -> {
             for (int calls = 1; calls <= 8; calls++) {
@@ -130,6 +131,27 @@ public final class StateTest {
         check.same("two are told", 2, x.value(2));
         check.same("the second one", 2, x.weighing(1, 0));
         check.refused(x, "no more", Fixtures.STATE, x::undo);
+    }
+
+    // The rows of the state before come back also where other weighings stood in between.
+    private static void writtenOver() {
+        LyingScale x = new LyingScale();
+        x.tell(7, 56, 0);
+        x.add(1, 2);
+        x.begin(16);
+        x.tell(256, 512, 1);
+        x.add(4, 8);
+        for (int i = 0; i < 3; i++) {
+            x.undo();
+        }
+        check.same("the left set", 7, x.weighing(0, 0));
+        check.same("the right set", 56, x.weighing(0, 1));
+        check.same("the answer", 0, x.weighing(0, 2));
+        check.same("the plan's left set", 1, x.distance(0, 1));
+        check.same("the plan's right set", 1, x.distance(0, 3));
+        check.same("the later plan's left set is gone", 0, x.distance(0, 5));
+        check.same("the later plan's right set is gone", 0, x.distance(0, 7));
+        check.same("the lies", 0, x.lies(1));
     }
 
     private static void digest() {
