@@ -13,7 +13,8 @@ import java.util.regex.Pattern;
  * stand behind a sentence: so a sentence that is changed or new in the document is seen.
  */
 final class Sentences {
-    private static final Pattern TITLE = Pattern.compile("(?m)^## (Terms|Promise \\d+)\\b.*$");
+    private static final Pattern TITLE = Pattern.compile(
+            "(?m)^## (What it is|Terms|Promise \\d+|Not promised)\\b.*$");
     private static final String HEADINGS = "^(Coins and cases|Weighings|Lies|Knowledge|Bounds|"
             + "Hidden case|Plan|Text|Undo|Exceptions)\\. ";
 
